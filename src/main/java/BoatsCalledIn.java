@@ -55,7 +55,7 @@ public final class BoatsCalledIn {
             tape.add(FIRST_TEXT.charAt(i));
         }
         tape.read();
-        rules[0] = tape.rule();
+        rules[0] = tape.ruleRead();
         ruleCount = 1;
         tape.empty();
     }
@@ -145,7 +145,7 @@ public final class BoatsCalledIn {
         }
         int fault = tape.read();
         if (fault == NONE) {
-            rules[ruleCount] = tape.rule();
+            rules[ruleCount] = tape.ruleRead();
             ruleCount++;
         }
         tape.empty();
@@ -161,9 +161,8 @@ public final class BoatsCalledIn {
         return was;
     }
 
-    /** What a clause of the rule tells by the names as they are now. */
-    private int ruled(int clause) {
-        return rules[lake[RULE]].value(clause, names);
+    private Rule rule() {
+        return rules[lake[RULE]];
     }
 
     private void nameAll(int boat, int cell, int minute, int wind) {
@@ -256,7 +255,7 @@ public final class BoatsCalledIn {
             return false;
         }
         nameAll(boat, cell, minute, wind);
-        return ruled(HEARS) != 0 && ruled(COMES) != 0;
+        return rule().value(HEARS, names) != 0 && rule().value(COMES, names) != 0;
     }
 
     /** The minute in which a boat that is coming, or would come now, is in; NONE of any other. */
@@ -290,7 +289,7 @@ public final class BoatsCalledIn {
     /** What a boat owes that is in at a minute, by the price of that minute. */
     private int owed(int boat, int minute) {
         nameAll(boat, fleet[boat].now[CELL], minute, lake[WIND]);
-        int price = Math.max(0, Math.min(MOST_PRICE, ruled(PRICE)));
+        int price = Math.max(0, Math.min(MOST_PRICE, rule().value(PRICE, names)));
         return fleet[boat].owesBy(Math.max(0, minute - fleet[boat].due()), price);
     }
 
@@ -926,16 +925,21 @@ public final class BoatsCalledIn {
         int value(int clause, int[] names) {
             height = 0;
             for (int i = clause == 0 ? 0 : ends[clause - 1]; i < ends[clause]; i++) {
-                int item = code[i];
-                if (item >= 0) {
-                    push(item);
-                } else if (-1 - item < NAMES) {
-                    push(names[-1 - item]);
+                int sign = -1 - code[i];
+                if (sign < 0) {
+                    push(code[i]);
+                } else if (sign < NAMES) {
+                    push(names[sign]);
+                } else if (sign == Tape.NEGATED) {
+                    push(-pop());
+                } else if (sign == Tape.NOT_KEY) {
+                    push(pop() == 0 ? 1 : 0);
                 } else {
-                    reckon(-1 - item);
+                    int right = pop();
+                    push(joined(sign, pop(), right));
                 }
             }
-            return stack[0];
+            return pop();
         }
 
         private void push(int value) {
@@ -945,36 +949,24 @@ public final class BoatsCalledIn {
             }
         }
 
-        private void reckon(int sign) {
-            if (height < 1) {
-                return;
-            }
-            int right = stack[height - 1];
-            if (sign == Tape.NEGATED || sign == Tape.NOT_KEY) {
-                stack[height - 1] = sign == Tape.NEGATED ? -right : truth(right == 0);
-                return;
-            }
-            if (height < 2) {
-                return;
+        private int pop() {
+            if (height <= 0) {
+                return 0;
             }
             height--;
-            stack[height - 1] = joined(sign, stack[height - 1], right);
+            return stack[height];
         }
 
         private static int joined(int sign, int left, int right) {
             switch (sign) {
-                case Tape.OR_KEY: return truth(left != 0 || right != 0);
-                case Tape.AND_KEY: return truth(left != 0 && right != 0);
-                case '<': return truth(left < right);
-                case '=': return truth(left == right);
+                case Tape.OR_KEY: return left != 0 || right != 0 ? 1 : 0;
+                case Tape.AND_KEY: return left != 0 && right != 0 ? 1 : 0;
+                case '<': return left < right ? 1 : 0;
+                case '=': return left == right ? 1 : 0;
                 case '+': return left + right;
                 case '-': return left - right;
                 default: return left * right;
             }
-        }
-
-        private static int truth(boolean is) {
-            return is ? 1 : 0;
         }
     }
 
@@ -1024,7 +1016,7 @@ public final class BoatsCalledIn {
         }
 
         /** What was read last, without a fault. */
-        Rule rule() {
+        Rule ruleRead() {
             return new Rule(Arrays.copyOf(code, codeSize), Arrays.copyOf(ends, CLAUSES));
         }
 
@@ -1142,7 +1134,11 @@ public final class BoatsCalledIn {
                 emit(NEGATED);
                 return true;
             }
-            return skip('(') && either(open + 1) && skip(')');
+            if (token != '(') {
+                return false;
+            }
+            step();
+            return either(open + 1) && skip(')');
         }
 
         private boolean skip(int wanted) {

@@ -176,6 +176,13 @@ public final class BoatsTest {
         for (int boat = 0; boat < 7; boat++) {
             Check.due("for nothing owed by " + boat, x.told(boat, 10), free[boat]);
         }
+        x.force(Check.text(x, "price 1; hears 1; comes 1;"));
+        int[] cheap = {3, 3, 1, 0, 3, 9, 10};
+        for (int boat = 0; boat < 7; boat++) {
+            Check.due("cheaply owed by " + boat, x.told(boat, 10), cheap[boat]);
+        }
+        x.set(2, 5, 46);
+        Check.due("the least a boat would owe, and 6", x.told(5, 10), 7);
         x.force(Check.text(x, "price late - 32; hears 1; comes 1;"));
         Check.due("late tells how long ago it was due", x.told(0, 10), 0);
         x.time(2);

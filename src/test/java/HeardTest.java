@@ -37,6 +37,7 @@ public final class HeardTest {
         Check.due("no such boat", heard(x, 0, 1, 2, 1, 4, 0), 2);
         Check.due("no such boat, below 0", heard(x, -1, 0), 0);
         Check.due("neither 1 nor 0", heard(x, 0, 1, 0, 2), 1);
+        Check.due("neither 1 nor 0, of one that wouldn't come", heard(x, 1, 0, 1, 2), 1);
         Check.due("neither 1 nor 0, below", heard(x, 1, 0, 1, -1), 1);
         Check.due("neither, of the greatest", heard(x, Integer.MAX_VALUE, Integer.MAX_VALUE), 0);
         x.call(0);
@@ -132,7 +133,7 @@ public final class HeardTest {
         for (int boat = 0; boat < 7; boat++) {
             Check.boat(x, 0, 0, 5 * 8 + boat, 0, 30);
         }
-        int[] seeds = {0, 1, 5, -1, -77, 12345, 99999, Integer.MAX_VALUE, Integer.MIN_VALUE, 7, 8, 9, 10, 11};
+        int[] seeds = {0, 1, 5, -1, -77, 12345, 99999, Integer.MAX_VALUE, Integer.MIN_VALUE, 7, 8, 9, 10, 11, 798, 643};
         for (int seed : seeds) {
             int reach = 12 - wind(seed);
             Check.due("drawn(" + seed + ")", x.drawn(seed), Math.max(0, Math.min(7, reach - 4)));

@@ -76,6 +76,11 @@ public final class LaunchTest {
         order(y, 3, 2 + 4 * 2 + 2 * 3, 0, 1);
         BoatsCalledIn z = lake(0, 0, 5);
         order(z, 7, 15, 0, 1, 2);
+        // asked for no minutes ahead: 3 + 4 * 2 + 3 against 1 + 4 * 2 + 9, and 12 + 11 * 2 + 3 against 1 + 11 * 2 + 36
+        BoatsCalledIn w = lake(8, 3, 47);
+        Check.due("the first of one set", w.fetch(3, 1), 1);
+        Check.due("the first of another", w.fetch(5, 1), 2);
+        Check.due("the second of another", w.fetch(5, 2), 0);
     }
 
     private static void promise13Refusals() {
@@ -183,6 +188,8 @@ public final class LaunchTest {
         x.set(0, 3, 0);
         Check.due("one at the stage", x.one(0), 3);
         Check.due("in no minutes", x.one(1), 0);
+        x.set(0, 0, 0);
+        Check.due("the first of all", x.one(0), 0);
         x.launch(13);
         x.time(240);
         Check.due("when all are in", x.one(0), NONE);

@@ -10,6 +10,7 @@ public final class TextsTest {
         promise6Depth();
         promise6Blanks();
         promise6Values();
+        promise6Deepest();
         promise6Names();
         promise6FirstText();
         promise7();
@@ -73,7 +74,11 @@ public final class TextsTest {
             "price 1 < 2 < 3;", "price 1 = 2 < 3;", "price not;", "price 1 not;", "price 1 < not 2;",
             "price 1 + not 2;", "price - not 2;", "price or 1;", "price 1 or;", "price 1 and or;", "price hears;",
             "price farr;", "price fa r;", "price4;", "pricefar;", "price;", "price 1\t;", "price 1 ; hears 1 ; comes 1 ;\000",
-            "price minutes;", "price 1 ;; hears", "price \u00e4;", "price 1 /", "price 1 > 2;", "price 1; hears 1; price 1;"};
+            "price minutes;", "price 1 ;; hears", "price \u00e4;", "price 1 /", "price 1 > 2;", "price 1; hears 1; price 1;",
+            "price price;", "price comes;", "price farz;", "price car;", "frice 1;", "price 1; fears 1;",
+            "price 1; hears 1; tomes 1;", "price 1 tor 1;", "price 1 bnd 1;", "price pot 1;", "price bind;", "price mate;",
+            "price did;", "price goat;", "price linute;", "price 1, 2;", "price 1 'or' 2;", "price `1;", "price {1;",
+            "price /1;", "price :1;", "price >1;", "price @1;", "price 1 \001 or 2;", "price 1\r;"};
         int[] places = {
             0, 5, 7, 27, 29, 3,
             0, 10, 30, 30,
@@ -82,7 +87,11 @@ public final class TextsTest {
             12, 12, 9, 8, 10,
             10, 8, 6, 10, 12, 6,
             6, 6, 7, 0, 5, 7, 29,
-            6, 9, 6, 8, 8, 18};
+            6, 9, 6, 8, 8, 18,
+            6, 6, 6, 6, 0, 9,
+            18, 8, 8, 6, 6, 6,
+            6, 6, 6, 7, 8, 6, 6,
+            6, 6, 6, 6, 8, 7};
         BoatsCalledIn x = new BoatsCalledIn();
         for (int i = 0; i < texts.length; i++) {
             Check.due("the fault of \"" + texts[i] + "\"", Check.text(x, texts[i]), -100 - places[i]);
@@ -112,6 +121,22 @@ public final class TextsTest {
         BoatsCalledIn x = new BoatsCalledIn();
         for (int i = 0; i < texts.length; i++) {
             Check.due("\"" + texts[i] + "\"", Check.text(x, texts[i]), i + 1);
+        }
+    }
+
+    /** All that can wait for its other side waits at each of the six levels. */
+    private static void promise6Deepest() {
+        for (int last = 0; last < 2; last++) {
+            StringBuilder e = new StringBuilder();
+            for (int level = 0; level < 5; level++) {
+                e.append("0or 1and 8<8+1*(");
+            }
+            e.append("0or 1and 8<8+1*").append(last).append(")))))");
+            BoatsCalledIn x = new BoatsCalledIn();
+            Check.due("the deepest", Check.text(x, "price 1;hears 1;comes " + e + ";"), 1);
+            x.force(1);
+            x.boat(0, 0, 5000);
+            Check.due("the deepest is true", x.told(0, 9), last);
         }
     }
 

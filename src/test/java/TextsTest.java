@@ -10,6 +10,7 @@ public final class TextsTest {
         promise6Depth();
         promise6Blanks();
         promise6Values();
+        promise6AfterFaults();
         promise6Deepest();
         promise6Names();
         promise6FirstText();
@@ -122,6 +123,22 @@ public final class TextsTest {
         for (int i = 0; i < texts.length; i++) {
             Check.due("\"" + texts[i] + "\"", Check.text(x, texts[i]), i + 1);
         }
+    }
+
+    /** Faults leave nothing of their texts behind. */
+    private static void promise6AfterFaults() {
+        BoatsCalledIn x = new BoatsCalledIn();
+        for (int i = 0; i < 20; i++) {
+            Check.due("a fault", Check.text(x, "price 1+1*9+0*0+3+(7;"), -100 - 20);
+        }
+        Check.due("a text after faults", Check.text(x, "price 3;hears 1;comes boat=0;"), 1);
+        x.force(1);
+        x.boat(0, 0, 5000);
+        x.boat(0, 0, 5000);
+        x.time(6);
+        Check.due("its price", x.told(0, 10), 3);
+        Check.due("boat 0 comes", x.told(0, 9), 1);
+        Check.due("boat 1 doesn't", x.told(1, 9), 0);
     }
 
     /** All that can wait for its other side waits at each of the six levels. */

@@ -29,6 +29,12 @@ final class Check {
         return x.text();
     }
 
+    /** Puts a rule of these three in force. */
+    static void rule(BoatsCalledIn x, String price, String hears, String comes) {
+        int text = text(x, "price " + price + ";hears " + hears + ";comes " + comes + ";");
+        due("a rule of " + price + ", " + hears + ", " + comes, x.force(text) >= 0 ? 1 : 0, 1);
+    }
+
     /** A new object by whose rule every boat comes that hears it, at any time, for a price. */
     static BoatsCalledIn willing(int price) {
         BoatsCalledIn x = new BoatsCalledIn();
@@ -55,7 +61,7 @@ final class Check {
         }
     }
 
-    /** All that told and count tell, in one text, to see whether anything has changed. */
+    /** All that told, count, where and set tell, in one text (some 100 calls), to see whether anything has changed. */
     static String seen(BoatsCalledIn x) {
         StringBuilder all = new StringBuilder();
         for (int what = 0; what < 10; what++) {
@@ -68,6 +74,11 @@ final class Check {
         }
         for (int y = 0; y < 6 && x.count(0) > 0; y++) {
             all.append(x.where(0, y)).append(' ');
+        }
+        for (int what = 4; what < 9; what++) {
+            int was = x.set(what, 0, 5);
+            all.append(was).append(' ');
+            x.set(what, 0, was);
         }
         return all.toString();
     }

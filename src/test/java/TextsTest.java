@@ -93,11 +93,11 @@ public final class TextsTest {
             18, 8, 8, 6, 6, 6,
             6, 6, 6, 7, 8, 6, 6,
             6, 6, 6, 6, 8, 7};
-        BoatsCalledIn x = new BoatsCalledIn();
         for (int i = 0; i < texts.length; i++) {
+            BoatsCalledIn x = new BoatsCalledIn();
             Check.due("the fault of \"" + texts[i] + "\"", Check.text(x, texts[i]), -100 - places[i]);
+            Check.due("no text more", x.count(7), 1);
         }
-        Check.due("no text more", x.count(7), 1);
     }
 
     private static void promise6Depth() {

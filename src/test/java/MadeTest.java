@@ -1,10 +1,8 @@
 /**
- * Many made calls: fetch against all orders (promises 13 to 16), made texts against the values and faults that they are
- * made with (promise 6), and long walks of any calls, after which nothing may have thrown or strayed. A walk asks an object
- * more often than the 512 times of which the document tells; this program holds beyond them.
+ * Many made calls: fetch against all orders (promises 13 to 16), and made texts against the values and faults that they are
+ * made with (promise 6).
  */
-public final class WalkTest {
-    private static final int BAD = -2, STATE = -3, FULL = -4;
+public final class MadeTest {
     private static long state = 20261118L;
 
     public static void main(String[] args) {
@@ -13,9 +11,6 @@ public final class WalkTest {
         }
         for (int i = 0; i < 1500; i++) {
             madeText();
-        }
-        for (int i = 0; i < 200; i++) {
-            walk();
         }
         Check.end();
     }
@@ -133,7 +128,7 @@ public final class WalkTest {
         String e = either(0, 3);
         int value = made;
         String text = "price" + blank(true) + e + ";hears 1;comes 1;";
-        if (text.length() > 160) {
+        if (text.length() > 120) {
             return;
         }
         Check.due(text, Check.text(x, text), 1);
@@ -141,24 +136,24 @@ public final class WalkTest {
         int quarters = (Math.max(0, minute - 30) + 14) / 15;
         Check.due("the price of " + text, x.told(boat, 10), Math.max(0, Math.min(99, value)) * quarters);
         truths(x, e, value, boat);
-        damaged(x, text);
+        damaged(text);
     }
 
     private static void truths(BoatsCalledIn x, String e, int value, int boat) {
         String comes = "price 1;hears 1;comes " + e + ";";
-        if (comes.length() <= 160) {
+        if (comes.length() <= 120) {
             x.force(Check.text(x, comes));
             Check.due("true: " + comes, x.told(boat, 9), value != 0 ? 1 : 0);
         }
         String hears = "price 1;hears " + e + ";comes 1;";
-        if (hears.length() <= 160) {
+        if (hears.length() <= 120) {
             x.force(Check.text(x, hears));
             Check.due("true: " + hears, x.told(boat, 9), value != 0 ? 1 : 0);
         }
     }
 
     /** A good text cut off or spoilt ahead of a token: its fault is there. */
-    private static void damaged(BoatsCalledIn x, String text) {
+    private static void damaged(String text) {
         int[] places = new int[161];
         int size = 0;
         for (int i = 0; i < text.length(); i++) {
@@ -172,11 +167,11 @@ public final class WalkTest {
         for (int i = 0; i < 8; i++) {
             int place = places[next(size)];
             String ahead = text.substring(0, place);
-            Check.due("the fault of " + ahead, Check.text(x, ahead), -100 - place);
+            Check.due("the fault of " + ahead, Check.text(new BoatsCalledIn(), ahead), -100 - place);
             String[] bad = {"?", "12345", "nought", "Z", ">", "\t"};
             String spoilt = ahead + " " + bad[next(bad.length)];
             if (spoilt.length() <= 160) {
-                Check.due("the fault of " + spoilt, Check.text(x, spoilt), -100 - place - 1);
+                Check.due("the fault of " + spoilt, Check.text(new BoatsCalledIn(), spoilt), -100 - place - 1);
             }
         }
     }
@@ -275,86 +270,5 @@ public final class WalkTest {
         }
         made = next(next(2) == 0 ? 10000 : 10);
         return (made < 1000 && next(5) == 0 ? "0" : "") + made;
-    }
-
-    // ---- walks of any calls
-
-    private static void walk() {
-        BoatsCalledIn x = new BoatsCalledIn();
-        if (next(2) == 0) {
-            x.force(Check.text(x, "price far-wind+3;hears not hid or boat=1;comes 0-9<late or wind<3;"));
-        }
-        for (int i = 0; i < 200; i++) {
-            String before = Check.seen(x);
-            int called = next(28);
-            long got = any(x, called, i);
-            if (got == BAD || got == STATE || got == FULL) {
-                Check.unchanged("refused call " + called, before, x);
-            }
-            sound(x);
-        }
-    }
-
-    /** Mostly numbers that fit, now and then any number. */
-    private static int some(int below) {
-        switch (next(24)) {
-            case 0: return -1 - next(3);
-            case 1: return below + next(3);
-            case 2: return next(2) == 0 ? Integer.MAX_VALUE - next(3) : Integer.MIN_VALUE + next(3);
-            default: return next(below);
-        }
-    }
-
-    private static long any(BoatsCalledIn x, int called, int i) {
-        int boat = some(7);
-        int sheet = some(4);
-        switch (called) {
-            case 0: case 1: case 2:
-                return x.boat(some(6), 100 * some(48) + some(10), 1000 * (5 + some(236)) + next(i + 1));
-            case 3: return x.set(some(9), boat, some(48));
-            case 4: return x.set(some(9), boat, some(10));
-            case 5: return x.feed(some(256));
-            case 6: return Check.text(x, "price 1;hears 1;comes wind<" + next(10) + ";") < 0 ? 0 : 1;
-            case 7: return x.force(some(6));
-            case 8: case 9: return x.call(boat);
-            case 10: return x.time(some(12));
-            case 11: return x.time(some(241));
-            case 12: return x.callAt(boat);
-            case 13: return x.fetch(x.nobody() & some(128), some(8));
-            case 14: return x.launch(some(128) & (next(2) == 0 ? x.nobody() : -1));
-            case 15: return x.one(some(2)) == BAD ? BAD : 0;
-            case 16: return x.thunder(some(241), some(2));
-            case 17: return x.heard(sheet);
-            case 18: return x.where(boat, some(6));
-            case 19: return x.drawn(some(1000000));
-            case 20: return x.chance(some(1000000), some(21), some(2)) < 0 ? BAD : 0;
-            case 21: return x.image();
-            case 22: return x.back();
-            case 23: return x.sheet(sheet, some(3), some(41));
-            case 24: return x.cell(sheet, some(40), some(6));
-            case 25: return x.copy(sheet, some(12), some(4), some(12), some(12));
-            case 26: return x.boats(sheet, some(3), some(40), some(8)) == BAD ? BAD : 0;
-            default: return x.taken(boat, some(6)) == BAD ? BAD : 0;
-        }
-    }
-
-    /** What must hold between any two calls. */
-    private static void sound(BoatsCalledIn x) {
-        int boats = x.count(0);
-        Check.due("each is in one way", x.count(1) + x.count(2) + x.count(3), boats);
-        int onTheLake = 0;
-        int latest = x.count(4);
-        for (int i = 0; i < boats; i++) {
-            int how = x.told(i, 5);
-            onTheLake |= how == 0 ? 1 << i : 0;
-            int would = x.told(i, 9) == 1 ? x.count(4) + x.told(i, 7) * (x.told(i, 0) / 8 + x.told(i, 0) % 8) : -1;
-            latest = Math.max(latest, how == 1 ? x.told(i, 6) : how == 0 ? would : -1);
-            Check.due("a minute when it isn't on the lake", x.told(i, 6) >= 0 ? 1 : 0, how == 0 ? 0 : 1);
-            Check.due("its cell is among those where it would come", x.where(i, x.told(i, 0) / 8) >> x.told(i, 0) % 8 & 1,
-                x.told(i, 9));
-        }
-        Check.due("nobody is on the lake", x.nobody() & ~onTheLake, 0);
-        Check.due("all in at the latest", x.allIn(), latest);
-        Check.due("how many of nobody in no end of time", x.thunder(240, 1) <= Integer.bitCount(x.nobody()) ? 1 : 0, 1);
     }
 }

@@ -34,6 +34,7 @@ public final class CallEdgesTest {
         callAtIs0Now();
         callAtIs240AtMost();
         callAtIsNoSoonerThanDue();
+        callAtByWindAndCell();
         callAtAsksTheRuleOfThatMinute();
         callAtNone();
         callAtOfNoBoat();
@@ -508,6 +509,26 @@ public final class CallEdgesTest {
         Check.due("called then, it is in when due", x.told(0, 6), 60);
     }
 
+    // .. WOULD COME: by the WIND and the CELL that are now
+    private static void callAtByWindAndCell() {
+        BoatsCalledIn x = new BoatsCalledIn();
+        Check.rule(x, "1", "1", "wind=3 or far=7");
+        Check.boat(x, 0, 0, 47, 0, 5);
+        Check.boat(x, 0, 0, 9, 0, 50);
+        Check.due("by another wind", x.callAt(1), NONE);
+        x.set(5, 0, 3);
+        Check.due("by this wind", x.callAt(1), 44);
+        Check.due("too far to hear by this wind", x.callAt(0), NONE);
+        x.set(0, 0, 38);
+        Check.due("too far by two cells", x.callAt(0), NONE);
+        x.set(0, 0, 15);
+        x.set(5, 0, 2);
+        Check.due("near enough", x.callAt(0), NONE);
+        x.set(0, 0, 14);
+        Check.due("in its cell by any wind", x.callAt(0), 0);
+        Check.due("the other one by this wind", x.callAt(1), NONE);
+    }
+
     // .. THE MINUTE being n more, WOULD COME
     private static void callAtAsksTheRuleOfThatMinute() {
         BoatsCalledIn x = new BoatsCalledIn();
@@ -556,6 +577,12 @@ public final class CallEdgesTest {
         Check.due("one that is coming", x.callAt(0), STATE);
         x.time(0);
         Check.due("one that is in", x.callAt(0), STATE);
+        Check.boat(x, 0, 0, 1, 0, 9);
+        Check.due("another one, on the lake", x.callAt(1), 7);
+        Check.boat(x, 0, 0, 1, 0, 9);
+        x.call(2);
+        Check.due("yet another one, coming", x.callAt(2), STATE);
+        Check.due("the one on the lake ahead of it", x.callAt(1), 7);
         Check.rule(x, "1", "0", "0");
         Check.due("one that is in, and never would come", x.callAt(0), STATE);
     }
@@ -615,6 +642,12 @@ public final class CallEdgesTest {
         Check.due("none on the lake would come", x.allIn(), 24);
         x.time(13);
         Check.due("a minute ahead", x.allIn(), 24);
+        BoatsCalledIn y = Check.willing(1);
+        Check.boat(y, 0, 0, 1, 0, 5);
+        Check.boat(y, 0, 0, 7, 0, 5);
+        y.call(0);
+        y.call(1);
+        Check.due("the later one of two that are coming", y.allIn(), 14);
     }
 
     // ALL IN: those that are IN aren't COMING

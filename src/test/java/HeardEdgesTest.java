@@ -29,6 +29,7 @@ public final class HeardEdgesTest {
         drawnIsWithoutASign();
         drawnWereWind();
         drawnIsOfThoseOnTheLake();
+        drawnByTheRule();
         drawnChangesNothing();
         chanceOfOneSeed();
         chanceOfTwentySeeds();
@@ -371,6 +372,15 @@ public final class HeardEdgesTest {
         drawnIs(4, wind(4));
         drawnIs(100, wind(100));
         drawnIs(65536, wind(65536));
+        // where one more or less would draw another wind
+        int met = 0;
+        for (int seed = 0; met < 6; seed++) {
+            int low = seed * 1103515245 + 12345 & 1023;
+            if (low == 0 || low == 1023) {
+                drawnIs(seed, wind(seed));
+                met++;
+            }
+        }
         drawnIs(HIGH, wind(HIGH));
         drawnIs(LOW + 1, wind(LOW + 1));
     }
@@ -425,6 +435,26 @@ public final class HeardEdgesTest {
         Check.due("one of them is in", x.drawn(0), 2);
         x.launch(12);
         Check.due("two more are in", x.drawn(0), 0);
+    }
+
+    // .. WOULD COME: in this minute, by hears and comes, each in its CELL
+    private static void drawnByTheRule() {
+        BoatsCalledIn x = new BoatsCalledIn();
+        Check.boat(x, 0, 0, 9, 0, 30);
+        Check.boat(x, 0, 0, 28, 0, 30);
+        Check.boat(x, 0, 0, 9, 0, 31);
+        x.time(25);
+        Check.due("too early", x.drawn(0), 0);
+        x.time(1);
+        Check.due("one is due soon", x.drawn(0), 1);
+        x.time(1);
+        Check.due("two are", x.drawn(0), 2);
+        x.set(4, 0, 0);
+        Check.due("none is hidden", x.drawn(0), 3);
+        Check.rule(x, "1", "1", "minute=27 and far=2 and boat=2");
+        Check.due("by its minute, cell and place", x.drawn(0), 1);
+        x.time(1);
+        Check.due("a minute later", x.drawn(0), 0);
     }
 
     // drawn asks, and changes nothing

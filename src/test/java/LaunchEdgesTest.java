@@ -235,6 +235,12 @@ public final class LaunchEdgesTest {
         launchOf(x, 6, 9);
         order(x, 126, 7 * 9 + 10 + 11 + 12 + 13 + 14 + 2 * 15, 6, 5, 4, 3, 2, 1);
         order(x, 85, 7 * 9 + 20 + 22 + 24 + 13, 6, 4, 2, 0);
+        Check.due("the first of some, asked for at once", x.fetch(42, 1), 5);
+        Check.due("the third of some others", x.fetch(28, 3), 2);
+        BoatsCalledIn y = lake(1, 2, 3);
+        Check.due("the second of three, asked for at once", y.fetch(7, 2), 1);
+        Check.due("the last of three", y.fetch(7, 3), 0);
+        order(y, 7, (3 + 2 + 6) + (1 + 2), 2, 1, 0);
     }
 
     // (1 .. 7; NONE)

@@ -160,6 +160,8 @@ public final class TextEdgesTest {
         fault("FAR", 0);
         fault("Far", 0);
         fault("faR", 0);
+        fault("fara", 0);
+        fault("farz", 0);
         fault("far_", 3);
         fault("far`", 3);
         fault("far{", 3);
@@ -302,10 +304,22 @@ public final class TextEdgesTest {
         fault("(1))", 3);
         fault("(1;2)", 2);
         fault("1 and", 5);
+        fault("1 and and 1", 6);
+        fault("1 or", 4);
         fault("1 or or 1", 5);
+        fault("(1 or)", 5);
+        fault("(1 and)", 6);
         fault("and 1", 0);
+        fault("or 1", 0);
+        fault("1+", 2);
+        fault("1*", 2);
+        fault("(1+)", 3);
+        fault("(1*)", 3);
+        fault("(1<)", 3);
         fault("-", 1);
+        fault("(-)", 2);
         fault("not", 3);
+        fault("(not)", 4);
     }
 
     // NAMES are far wind late hid boat minute
@@ -339,6 +353,11 @@ public final class TextEdgesTest {
                 fault("1+" + name.substring(0, i) + "q" + name.substring(i + 1), 2);
             }
         }
+        fault("(q 1))", 1);
+        fault("not q 1", 4);
+        fault("-q 1", 1);
+        fault("1 q 1", 2);
+        fault("1+q", 2);
         String[] keys = {"nor", "o", "orr", "an", "nd", "ands", "no", "ot", "nott", "xor"};
         for (String key : keys) {
             fault("1 " + key + " 1", 2);
@@ -460,6 +479,17 @@ public final class TextEdgesTest {
         fault("not not not not(1)<((1))", 20);
         good("not not not not(1)<(1)and((1))");
         fault("(((((1+(1))))))", 7);
+        fault("(((((1-(1))))))", 7);
+        fault("(((((1*(1))))))", 7);
+        fault("(((((1<(1))))))", 7);
+        fault("(((((1 or(1))))))", 9);
+        fault("(((((1 and(1))))))", 10);
+        fault("(((((1 or not 1)))))", 10);
+        fault("(((((1 and not 1)))))", 11);
+        fault("(((((1*-1)))))", 7);
+        good("((((1 or(1)))))");
+        good("((((1 and not 1))))");
+        good("((((1*-1))))");
         good("((((-1+-1*-1))))");
     }
 
@@ -587,6 +617,8 @@ public final class TextEdgesTest {
             x.set(0, 0, cells[i]);
             Check.due("far in cell " + cells[i], x.told(0, 10), far[i]);
         }
+        Check.boat(x, 0, 0, 30, 0, 5);
+        Check.due("far of another boat", x.told(1, 10), 9);
     }
 
     // wind: WIND
@@ -633,6 +665,9 @@ public final class TextEdgesTest {
             x.set(0, 0, cells[i]);
             Check.due("hid in cell " + cells[i], x.told(0, 10), 50 * hid[i] + 7);
         }
+        Check.boat(x, 0, 0, 30, 0, 5);
+        Check.due("hid of another boat", x.told(1, 10), 57);
+        Check.due("hid of the first one yet", x.told(0, 10), 7);
     }
 
     // boat: which one it is
@@ -743,6 +778,16 @@ public final class TextEdgesTest {
         Check.due("nothing of it is left", x.text(), -100);
         Check.due("a text", Check.text(x, "price 1" + TAIL), 1);
         Check.due("empty again", x.count(8), 0);
+        Check.boat(x, 0, 0, 0, 0, 5);
+        Check.boat(x, 0, 0, 0, 0, 5);
+        x.time(6);
+        for (int i = 0; i < 4; i++) {
+            Check.due("a fault again", Check.text(x, "price 9*9+8;hears 0 or(0;"), -100 - 24);
+        }
+        Check.due("a text behind faults", Check.text(x, "price 3;hears 1;comes boat;"), 2);
+        x.force(2);
+        Check.due("its price", x.told(0, 10), 3);
+        Check.due("who comes", x.nobody(), 1);
         Check.due("nothing of it is left again", x.text(), -100);
         Check.due("the first byte", x.feed('p'), 1);
     }

@@ -283,6 +283,13 @@ public final class LaunchEdgesTest {
                 Check.due("fetch(" + set + ", " + what + ")", x.fetch(set, what), BAD);
             }
         }
+        BoatsCalledIn y = lake(1, 1, 1, 1, 1, 1, 1);
+        int[] beyond = {128, 129, 255, 256, 1 << 30, LOW, -128};
+        for (int set : beyond) {
+            Check.due("beyond seven: fetch(" + set + ", 0)", y.fetch(set, 0), BAD);
+            Check.due("beyond seven: launch(" + set + ")", y.launch(set), BAD);
+        }
+        Check.due("seven: fetch(127, 7)", y.fetch(127, 7), 6);
         x.call(0);
         x.call(1);
         x.time(0);

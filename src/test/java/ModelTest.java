@@ -53,7 +53,7 @@ public final class ModelTest {
         for (int i = 0; i < boats; i++) {
             boat();
         }
-        while (calls < CALLS) {
+        while (calls < CALLS - 12) {
             if (next(60) == 0) {
                 text();
             } else {

@@ -9,6 +9,7 @@ public final class TextEdgesTest {
     public static void main(String[] args) {
         bytesAre0To255();
         theTapeHas160BytesAtMost();
+        theLongestE();
         feedIsBadAheadOfFull();
         tokensAreAsLongAsCanBe();
         wordsAreOfSmallLetters();
@@ -30,6 +31,7 @@ public final class TextEdgesTest {
         notsFiveDeep();
         minusesFiveDeep();
         mixedFiveDeep();
+        theMostThatWaits();
         whatIsClosedIsOpenNoMore();
         aMinusBehindAOneOpensNothing();
         sumsWrap();
@@ -121,6 +123,16 @@ public final class TextEdgesTest {
         Check.due("a text of 160 bytes", x.text(), 1);
         Check.due("no byte", x.count(8), 0);
         Check.due("there is room again", x.feed('x'), 1);
+    }
+
+    // THE TAPE (160 bytes at most): the longest E that has room
+    private static void theLongestE() {
+        is("1" + "+1".repeat(68), 69);
+        is("1" + "*1".repeat(68), 1);
+        is("99" + "-1".repeat(67), 32);
+        is("1" + " or 0".repeat(27), 1);
+        is("0" + " or 0".repeat(27), 0);
+        is("7" + " and 1".repeat(22), 1);
     }
 
     // feed: BAD; FULL
@@ -461,6 +473,15 @@ public final class TextEdgesTest {
         good("((((-1))))");
         good("((((not 1))))");
         good("(((not-1)))");
+    }
+
+    // .. while 5 of these are open: with all that may wait for its other side at each of six levels
+    private static void theMostThatWaits() {
+        String level = "0or 1and 8<8+1*";
+        for (int last = 0; last < 2; last++) {
+            is((level + "(").repeat(5) + level + last + ")))))", last);
+        }
+        fault((level + "(").repeat(6) + "1", level.length() * 6 + 5);
     }
 
     // a ( till its ) , not and - till what they belong to ends
